@@ -136,6 +136,14 @@ public final class FairTest {
         due("about(4) behind it", x.about(4), 1);
         due("holds(0) behind it", x.holds(0), 1);
         due("again(1) behind it", x.again(1), 2);
+        x.undo();
+        x.wipe();
+        Check.write(x, "Pa000000Pb000000");
+        x.fair();
+        x.exchange(0, 1);
+        x.want(0, 3);
+        x.keep(0);
+        x.keep(1);
         x.wipe();
         Check.write(x, "Pc987654Pd000000P-111111ef");
         due("fair() anew", x.fair(), 3);
@@ -174,6 +182,8 @@ public final class FairTest {
         due("about(2): both are dead", x.about(2), 2);
         Check.anew(x, "Pa000000P-000000");
         due("about(2): new to one that holds nothing", x.about(2), 0);
+        Check.anew(x, "Pa000000Pb000000a");
+        due("about(2): a is dead, b is new to 0", x.about(2), 1);
         Check.anew(x, "Pa000000Pa000000");
         due("about(2): two of a sort", x.about(2), 2);
         Check.anew(x, "Pa000000");

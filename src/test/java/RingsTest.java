@@ -50,6 +50,8 @@ public final class RingsTest {
         dueRings("Pa055000Pb500000Pc500000", 10, 1, 0, 2);
         // Two by 10, or three by 10: the fewest people.
         dueRings("Pa036000Pb003000Pc430000", 10, 2, 1, 0);
+        // Three by 3 with 0, or without it: 0 from itself is less than from 1.
+        dueRings("Pa010000Pb001000Pc100100Pd010000", 3, 0, 2, 3, 1);
         // Two rings of three: 0 takes from 1 in the first.
         dueRings("Pa055000Pb505000Pc550000", 15, 1, 2, 0);
         dueRings("Pb050500Pa550500Pd555500", 0, 0, 1, 2);

@@ -114,6 +114,10 @@ public final class WantsTest {
         due("mayComeTo(2): only its own", x.mayComeTo(2), Check.bits("f"));
         due("holds(0) as before", x.holds(0), 0);
         due("had(1) as before", x.had(1), Check.bits("bf"));
+        Check.anew(x, "Pa000000Pb000000Pc000000");
+        for (int i = 0; i < 3; i++) {
+            due("mayComeTo(" + i + ") of three sorts", x.mayComeTo(i), 7);
+        }
         Check.anew(x, "Pd000000");
         due("mayComeTo(0) of one alone", x.mayComeTo(0), 8);
     }
