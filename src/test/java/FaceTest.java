@@ -68,7 +68,14 @@ public final class FaceTest {
             }
         }
         check.due("the public methods", open.equals(Set.of(FACE)) ? 1 : 0, 1);
-        for (Method m : NeverHadBefore.class.getDeclaredMethods()) {
+        noPublicName(NeverHadBefore.class, names);
+        for (Class<?> inside : NeverHadBefore.class.getDeclaredClasses()) {
+            noPublicName(inside, names);
+        }
+    }
+
+    private static void noPublicName(Class<?> kind, Set<String> names) {
+        for (Method m : kind.getDeclaredMethods()) {
             boolean hidden = Modifier.isPrivate(m.getModifiers());
             check.due(told(m) + " bears a public name", hidden && names.contains(m.getName()) ? 1 : 0, 0);
         }
