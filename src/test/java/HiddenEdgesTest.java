@@ -28,6 +28,7 @@ public final class HiddenEdgesTest {
         slotsTwo();
         keepAnswers();
         againAsKept();
+        againOfFour();
         againLate();
         againNoActs();
         keptOfWhat();
@@ -267,6 +268,26 @@ public final class HiddenEdgesTest {
             due("had(1)", x.had(1), 2);
             due("may(0, 1)", x.may(0, 1), 1);
             x.exchange(1, 0);
+        }
+    }
+
+    private static void againOfFour() {
+        check.sentence("They are as they were kept: of the most PEOPLE");
+        NeverHadBefore x = Check.fair(FOUR);
+        x.exchange(0, 1);
+        x.exchange(2, 3);
+        x.keep(0);
+        x.exchange(0, 2);
+        x.exchange(1, 3);
+        x.keep(1);
+        int[][] holds = {{1, 0, 3, 2}, {3, 2, 1, 0}};
+        int[][] had = {{3, 3, 12, 12}, {11, 7, 14, 13}};
+        for (int slot = 0; slot < 2; slot++) {
+            due("again(" + slot + ")", x.again(slot), 4);
+            for (int p = 0; p < 4; p++) {
+                due("holds(" + p + ") of slot " + slot, x.holds(p), holds[slot][p]);
+                due("had(" + p + ") of slot " + slot, x.had(p), had[slot][p]);
+            }
         }
     }
 

@@ -262,6 +262,18 @@ public final class RingsEdgesTest {
         dueTurns(text, 4, 1, 2, 0, 1);
         dueTurns(text, 5, 1, 2, 0, 1);
         dueTurns(text, 6, 1, 2, 0, 1);
+        // 0 would have b, for which 1 takes no a: it takes c, and gives it in the fifth turn, which is its own.
+        text = "Pa030000Pb000000aPc000000Pd000000";
+        dueTurns(text, 4, NONE, 0, 1, 2, 3);
+        dueTurns(text, 5, 2, 1, 2, 0, 3);
+        dueTurns(text, 6, 2, 1, 2, 0, 3);
+        // 1 would have a, for which 0 takes no b: it takes c, and gives it in the sixth turn.
+        text = "Pa000000bPb200000Pc000000Pd000000";
+        dueTurns(text, 5, NONE, 0, 1, 2, 3);
+        dueTurns(text, 6, NONE, 2, 0, 1, 3);
+        // What can be done in the fifth turn as well is put off: of like ones it passes.
+        dueTurns("Pa020000Pb000000Pc000000Pd000000", 4, 1, 1, 0, 2, 3);
+        dueTurns("Pa020000Pb000000Pc000000Pd000000", 5, NONE, 1, 0, 2, 3);
     }
 
     private static void turnsTakeNoLess() {

@@ -69,6 +69,8 @@ public final class RunsEdgesTest {
         check.sentence("the LONGEST, the SHORTEST");
         // 02 23, or 12 alone.
         dueRuns("Pa000000bdPb000000adPc000000Pd000000bc", 2, 1, 2);
+        // The same people by other numbers: 01 alone, or 12 13.
+        dueRuns("Pb000000adPc000000Pa000000bdPd000000bc", 2, 1, 2);
         dueRuns(FOUR, 6, 5, 144);
         dueRuns("Pf000000Pe000000Pd000000Pc000000", 6, 5, 144);
     }

@@ -144,6 +144,8 @@ public final class WantsEdgesTest {
         // 2 has had a: what 0 gives away can go there by no way, but b comes to 0 by 1.
         duePlan("Pa000000bPb000000Pc000000a", "c---", 12, 1);
         duePlan("Pa000000bPb000000Pc000000a", "-a--", 12, 1);
+        // Only for c does 3 give d, and 2 gives c for no a. (01 23 02 is as good, but not the first.)
+        duePlan("Pa000000Pb000000Pc000000aPd000000ab", "d---", 1, 2, 3);
         duePlan(THREE, "bca", 1, 12);
         duePlan(FOUR, "bcda", 1, 12, 23);
     }
@@ -163,6 +165,7 @@ public final class WantsEdgesTest {
     private static void fewestNone() {
         check.sentence("FEWEST; NONE");
         dueNoWay(THREE, "e--");
+        dueNoWay(FOUR, "---e");
         dueNoWay("Pa000000Pb000000a", "b-");
         dueNoWay("Pa000000bPb000000", "-a");
         dueNoWay("Pa000000bPb000000Pc000000", "b--");
@@ -250,6 +253,11 @@ public final class WantsEdgesTest {
         for (int p = 0; p < 4; p++) {
             due("mayComeTo(" + p + ") of four", Check.fair(FOUR).mayComeTo(p), 15);
         }
+        // Only for c does 3 give d, and 2 gives c for no a: so b, c, d, one behind the other.
+        due("mayComeTo(0) by three", Check.fair("Pa000000Pb000000Pc000000aPd000000ab").mayComeTo(0), 15);
+        // Of all that 0 may come to 1 has much at once, but not all.
+        due("mayComeTo(1), more than 0", Check.fair("Pb000000acPb000000Pa000000").mayComeTo(1), Check.bits("ab"));
+        due("mayComeTo(0) by either of two", Check.fair("Pa000000Pb000000Pb000000").mayComeTo(0), Check.bits("ab"));
         NeverHadBefore x = Check.fair(text);
         x.exchange(1, 2);
         due("mayComeTo(2): b stays", x.mayComeTo(2), Check.bits("b"));
@@ -298,6 +306,7 @@ public final class WantsEdgesTest {
         check.sentence("would let it come to most SORTS; of like ones the least");
         due("begin(0) of one alone", Check.fair("Pf000000").begin(0), 0);
         due("begin(0): none comes to more", Check.fair("Pc000000Pd000000abcef").begin(0), 0);
+        due("begin(0): old to both others", Check.fair("Pa000000Pb000000acdefPc000000abdef").begin(0), 0);
         due("begin(0): all but a are alike", Check.fair("Pf000000Pa000000").begin(0), 1);
         due("begin(0): all but b are alike", Check.fair("Pf000000Pb000000").begin(0), 0);
         // With a or b one comes to one other thing, with c .. f to both.
